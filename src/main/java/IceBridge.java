@@ -595,9 +595,9 @@ public final class IceBridge {
             word = null;
             if (at >= length) {
                 sort = TOKEN_END;
-            } else if (isLetter(signs[at])) {
+            } else if (signs[at] >= 'a' && signs[at] <= 'z') {
                 readWord();
-            } else if (isDigit(signs[at])) {
+            } else if (signs[at] >= '0' && signs[at] <= '9') {
                 readNumber();
             } else {
                 sort = "()<=+-*;".indexOf(signs[at]) >= 0 ? TOKEN_SIGN : TOKEN_WRONG;
@@ -613,7 +613,7 @@ public final class IceBridge {
         private void readWord() {
             int at = place;
             code = 0;
-            for (; at < length && isLetter(signs[at]); at++) {
+            for (; at < length && signs[at] >= 'a' && signs[at] <= 'z'; at++) {
                 code = code * 27 + (signs[at] - 'a' + 1);
             }
             next = at;
@@ -628,23 +628,15 @@ public final class IceBridge {
         private void readNumber() {
             int at = place;
             number = 0;
-            for (; at < length && isDigit(signs[at]); at++) {
+            for (; at < length && signs[at] >= '0' && signs[at] <= '9'; at++) {
                 number = number * 10 + (signs[at] - '0');
             }
             next = at;
             sort = at - place <= NUMBER_LENGTH ? TOKEN_NUMBER : TOKEN_WRONG;
         }
-
-        private static boolean isLetter(char sign) {
-            return sign >= 'a' && sign <= 'z';
-        }
-
-        private static boolean isDigit(char sign) {
-            return sign >= '0' && sign <= '9';
-        }
     }
 
-    /** Reads the tape as a fjord; once a fault is found nothing later can replace it. */
+    /** Reads the tape as a fjord. */
     private static final class Reader {
         private final Tape tape;
         private final int[] code = new int[MOST_SIGNS];
@@ -681,7 +673,7 @@ public final class IceBridge {
         private void readLine(Fjord fresh) {
             Word word = tape.word;
             if (word == null) {
-                fail(FAULT_MISPLACED);
+                fail(FAULT_MISPLACED, tape.place);
                 return;
             }
             switch (word) {
@@ -695,7 +687,7 @@ public final class IceBridge {
                 case MELT:
                 case SOUND:
                 case FIRST: readLaw(fresh, word.number); break;
-                default: fail(FAULT_MISPLACED); break;
+                default: fail(FAULT_MISPLACED, tape.place); break;
             }
         }
 
@@ -715,7 +707,7 @@ public final class IceBridge {
 
         private void readPourer(Fjord fresh) {
             if (fresh.pourers >= MOST_POURERS) {
-                fail(FAULT_TOO_MANY);
+                fail(FAULT_TOO_MANY, tape.place);
                 return;
             }
             tape.advance();
@@ -728,7 +720,7 @@ public final class IceBridge {
 
         private void readLoad(Fjord fresh) {
             if (fresh.loads >= MOST_LOADS) {
-                fail(FAULT_TOO_MANY);
+                fail(FAULT_TOO_MANY, tape.place);
                 return;
             }
             tape.advance();
@@ -762,7 +754,7 @@ public final class IceBridge {
 
         private void tellOnce(int bit) {
             if ((toldOnce & bit) != 0) {
-                fail(FAULT_TOLD_ALREADY);
+                fail(FAULT_TOLD_ALREADY, tape.place);
             }
             toldOnce |= bit;
         }
@@ -782,26 +774,29 @@ public final class IceBridge {
                 }
                 tape.advance();
                 readChain(level + 1, depth);
-                putOperation(sign);
+                put(-1 - sign);
             }
         }
 
         private void readPart(int depth) {
             if (!startsPart()) {
-                fail(FAULT_MISPLACED);
+                fail(FAULT_MISPLACED, tape.place);
             } else if (depth >= MOST_DEPTH) {
-                fail(FAULT_TOO_MANY);
+                fail(FAULT_TOO_MANY, tape.place);
             } else if (tape.sort == TOKEN_NUMBER) {
                 put(tape.number);
                 tape.advance();
             } else if (tape.sort == TOKEN_SIGN) {
                 tape.advance();
                 readChain(0, depth + 1);
-                takeSign(')');
+                if (!tape.isSign(')')) {
+                    fail(FAULT_MISPLACED, tape.place);
+                }
+                tape.advance();
             } else if (tape.word == Word.NOT) {
                 tape.advance();
                 readPart(depth + 1);
-                putOperation(SIGN_NOT);
+                put(-1 - SIGN_NOT);
             } else {
                 putFact();
                 tape.advance();
@@ -836,12 +831,8 @@ public final class IceBridge {
         private void putFact() {
             Word word = tape.word;
             if (word != null) {
-                putOperation(word.fact);
+                put(-1 - word.fact);
             }
-        }
-
-        private void putOperation(int operation) {
-            put(-1 - operation);
         }
 
         private void put(int step) {
@@ -852,33 +843,31 @@ public final class IceBridge {
         }
 
         private void takeWord(Word wanted) {
-            if (tape.word == wanted) {
-                take();
-            } else {
-                fail(FAULT_MISPLACED);
+            if (tape.word != wanted) {
+                fail(FAULT_MISPLACED, tape.place);
             }
+            tape.advance();
         }
 
         private void takeSign(char wanted) {
-            if (tape.isSign(wanted)) {
-                take();
-            } else {
-                fail(FAULT_MISPLACED);
+            if (!tape.isSign(wanted)) {
+                fail(FAULT_MISPLACED, tape.place);
             }
+            tape.advance();
         }
 
         /** Answers a number within the bounds even when there is a fault, so that callers may go on. */
         private int takeNumber(int least, int most) {
             if (tape.sort != TOKEN_NUMBER) {
-                fail(FAULT_MISPLACED);
+                fail(FAULT_MISPLACED, tape.place);
                 return least;
             }
             int number = tape.number;
             if (number < least || number > most) {
-                fail(FAULT_NUMBER);
+                fail(FAULT_NUMBER, tape.place);
                 return least;
             }
-            take();
+            tape.advance();
             return number;
         }
 
@@ -888,7 +877,7 @@ public final class IceBridge {
             int row = takeNumber(0, fresh.rows - 1);
             int cell = cellAt(column, row);
             if (map[cell] != 0) {
-                failAt(FAULT_TOLD_ALREADY, place);
+                fail(FAULT_TOLD_ALREADY, place);
             }
             return cell;
         }
@@ -896,42 +885,33 @@ public final class IceBridge {
         private int takeOneOf(int group) {
             Word word = tape.word;
             if (word == null || word.group != group) {
-                fail(FAULT_MISPLACED);
+                fail(FAULT_MISPLACED, tape.place);
                 return 0;
             }
-            take();
+            tape.advance();
             return word.number;
         }
 
         private void takeName() {
             Word word = tape.word;
             if (tape.sort != TOKEN_WORD || (word != null && word.group != GROUP_FREE)) {
-                fail(FAULT_MISPLACED);
+                fail(FAULT_MISPLACED, tape.place);
                 return;
             }
             for (int i = 0; i < named; i++) {
                 if (names[i] == tape.code) {
-                    fail(FAULT_TOLD_ALREADY);
+                    fail(FAULT_TOLD_ALREADY, tape.place);
                 }
             }
             if (named < names.length) {
                 names[named] = tape.code;
                 named++;
             }
-            take();
+            tape.advance();
         }
 
-        private void take() {
-            if (fault == 0) {
-                tape.advance();
-            }
-        }
-
-        private void fail(int kind) {
-            failAt(kind, tape.place);
-        }
-
-        private void failAt(int kind, int place) {
+        /** The first fault stands: tokens are taken from the left, and going on behind a wrong one does no harm. */
+        private void fail(int kind, int place) {
             if (fault == 0) {
                 fault = kind + 16 * place;
             }
