@@ -474,7 +474,7 @@ public final class IceBridge {
     private int valueOf(int set) {
         int pails = ice.pailsOf(set);
         int row = yard.bestRow(pails);
-        carriage.choose(ice, yard.thicknessOf(row, pails));
+        carriage.weighSets(ice, yard.thicknessOf(row, pails));
         return carriage.worth;
     }
 
@@ -1568,10 +1568,15 @@ public final class IceBridge {
         }
 
         void choose(Ice ice, int thickness) {
-            reachSets(ice, thickness);
-            findMostWorth(ice);
+            weighSets(ice, thickness);
             leadToMostWorth(ice, thickness);
             followLead(ice, thickness);
+        }
+
+        /** Finds what most is worth, without the order. */
+        void weighSets(Ice ice, int thickness) {
+            reachSets(ice, thickness);
+            findMostWorth(ice);
         }
 
         private boolean mayFollow(Ice ice, int thickness, int set, int load) {

@@ -114,7 +114,30 @@ public final class PromisesTest {
         people();
         laws();
         depths();
+        longest();
         fjordBegins();
+    }
+
+    private static void longest() {
+        String head = "fjord 2 1;frost 498";
+        String ones = "-1".repeat(490);
+        String full = head + ones + ";";
+        is("1,000 signs", 1000, full.length());
+        is("498 less 490", 8, Due.fjord(full).cell(0, 0, 3));
+        fault(1, 1000, head + ones + "1");
+        faultAt(1, "fjord 2 1;" + " ".repeat(982) + "@abcdefgh");
+        faultAt(1, "fjord 2 1;" + " ".repeat(986) + "@1234");
+        is("nothing but blanks behind", 0, Due.read(new IceBridge(), "fjord 2 1;" + "\n".repeat(990)));
+        IceBridge x = new IceBridge();
+        Due.read(x, "fjord 2 1;rock 0 0;");
+        is("what was read before is gone", 1 + 16 * 9, Due.read(x, "fjord 2 1"));
+        is("a word that went on before", 1, Due.read(x, "fjor"));
+        String nested = "9";
+        for (int i = 0; i < 4; i++) {
+            nested = "0 or 0<0+1*(" + nested + ")";
+        }
+        frostIs(1, nested);
+        frostIs(0, nested.replace("9", "0"));
     }
 
     private static void headings() {
@@ -984,6 +1007,12 @@ public final class PromisesTest {
         is("of equal ones the first", 0, y.heard(0, 0, 3));
         is("one that sounds otherwise does not count", 0, y.heard(0, 0, 0));
         is("even if it is thinner", 0, y.thin(0));
+        IceBridge z = Due.fjord("fjord 2 1;frost 9;sound 9;pourer a west plain pails 99;");
+        for (int i = 0; i < 22; i++) {
+            yes("pour", z.pour(0, i / 11, 0));
+        }
+        is("sound 9", 2, z.heard(0, 9, 2));
+        is("as thick as can be", 0, z.heard(0, 9, 3));
         is("sound -1", NONE, x.heard(0, -1, 0));
         is("sound 10", NONE, x.heard(0, 10, 0));
         is("what 4", NONE, x.heard(0, 0, 4));
@@ -1137,6 +1166,7 @@ public final class PromisesTest {
     }
 
     private static void wrongFits(IceBridge x) {
+        x.stump(0, 0, 0);
         is("right", 1, x.fits(0, 0, 0, 12, 0));
         is("poured -1", NONE, x.fits(0, 0, -1, 12, 0));
         is("poured 12", NONE, x.fits(0, 0, 12, 12, 0));
@@ -1203,7 +1233,6 @@ public final class PromisesTest {
         is("nothing is done by it", 13, x.count(4));
         IceBridge mild = Due.fjord(text + "mild 10;");
         is("always mild: 3 a pail", 9, Due.winter(mild, 5, 60, NONE, 0));
-        // the first draws of seed 0: 12345 / 65536 = 0, then others
         IceBridge some = Due.fjord(text + "mild 5;");
         is("draws", draws(77, 60, 5), 60 - Due.winter(some, 77, 60, 1, 0));
         is("the first draw of 0 is 0", 9, Due.winter(Due.fjord(text + "mild 1;"), 0, 1, NONE, 0));
