@@ -22,7 +22,6 @@ public final class IceBridge {
     private static final int NOON = 12;
     private static final int DAY = 24;
 
-    private static final int WATER = 0;
     private static final int ROCK = 1;
     private static final int SALT = 2;
 
@@ -960,7 +959,7 @@ public final class IceBridge {
         }
     }
 
-    /** A fjord as it was told; nothing in it changes once it has been read, so marks may share it. */
+    /** A fjord as it was told, and room to weigh its laws in; what was told never changes, so marks may share it. */
     private static final class Fjord {
         private final int columns;
         private final int rows;
