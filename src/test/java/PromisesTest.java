@@ -94,17 +94,11 @@ public final class PromisesTest {
     }
 
     private static void fault(int kind, int place, String text) {
-        IceBridge x = new IceBridge();
-        is("fault of " + text, kind == 0 ? 0 : kind + 16 * place, Due.read(x, text));
-        is("tape behind " + text, 0, x.count(12));
-        if (kind != 0) {
-            is("stays behind " + text, 2, x.count(0));
-        }
+        Due.fault(kind, place, text);
     }
 
-    /** A fault whose place is where the sign @ stands in the text, which is left out. */
     private static void faultAt(int kind, String text) {
-        fault(kind, text.indexOf('@'), text.replace("@", ""));
+        Due.faultAt(kind, text);
     }
 
     /** Promise 3. */
