@@ -159,6 +159,9 @@ public final class AnswerBoundsTest {
         IceBridge y = iced(9, seven(1));
         row("9 bears three dances", new int[] {297, 7, 0, 1, 2}, what -> y.carried(0, what));
         row("no loads", new int[] {0, 0}, what -> new IceBridge().carried(0, what));
+        String dead = load('a', "dance", 1, 1) + load('b', "foot", 1, 9) + load('c', "foot", 2, 9) + load('d', "foot", 3, 9)
+            + load('e', "horse", 2, 9) + load('f', "dance", 3, 26) + load('g', "dance", 3, 26);
+        carries("27 of three, not 26 of one, nor 1 that leads nowhere", 3, dead, 27, 14, 3, 2, 1);
     }
 
     private static void argumentsOfCarried() {
@@ -606,6 +609,9 @@ public final class AnswerBoundsTest {
             yes("over", x.over(0, 0));
             is("lost", 9, x.count(8));
         }
+        IceBridge wide = pour(pour(Due.fjord("fjord 10 6;frost 2;pourer pw west plain pails 99;" + load('f', "foot", 1, 1)), 4), 5);
+        is("ten cells, not those of the row behind", 10, Due.toll(wide, 0, 4));
+        is("ten cells of the last row", 10, Due.toll(wide, 0, 5));
         IceBridge thick = Due.fjord("fjord 2 1;rock 1 0;frost 9;pourer pw west plain pails 11;" + load('f', "foot", 50, 1));
         for (int i = 0; i < 11; i++) {
             yes("pour", thick.pour(0, 0, 0));
@@ -740,6 +746,11 @@ public final class AnswerBoundsTest {
     private static void argumentsOfHeard() {
         IceBridge x = Due.fjord("fjord 10 6;sound column;");
         Due.ends("heard sound", 0, 9, sound -> x.heard(0, sound, 0));
+        IceBridge rocks = Due.fjord("fjord 3 1;rock 0 0;sound 9*(column=2);");
+        for (int what = 0; what < 4; what++) {
+            is("-1 is no sound, of a rock either", NONE, rocks.heard(0, -1, what));
+            is("10 is none, either", NONE, rocks.heard(0, 10, what));
+        }
         Due.ends("heard row", 0, 5, row -> x.heard(row, 0, 0));
         Due.ends("heard what", 0, 3, what -> x.heard(0, 0, what));
     }
@@ -1135,6 +1146,9 @@ public final class AnswerBoundsTest {
         is("7 on salt: 3, 1", 1, mildThickness("frost 7;salt 0 0;salt 1 0;"));
         is("3 on salt: 1, 0", 0, mildThickness("frost 3;salt 0 0;salt 1 0;"));
         is("rocks", 99, mildThickness("rock 0 0;rock 1 0;"));
+        is("the first cell", 8, mildThickness("frost 9;rock 1 0;"));
+        is("the last cell", 8, mildThickness("frost 9;rock 0 0;"));
+        is("each row", 12, Due.winter(Due.fjord("fjord 10 6;frost 9;pourer pw west plain pails 30;mild 10;"), 0, 1, NONE, 0));
     }
 
     private static int behind(String melt, int needs, int hour) {
@@ -1209,6 +1223,7 @@ public final class AnswerBoundsTest {
         yes("another", x.pour(1, 3, 0));
         is("not those left alone", 3, Due.winter(x, 0, 1, NONE, 0));
         is("nobody", 0, Due.winter(new IceBridge(), 0, 1, NONE, 0));
+        is("all six", 2, Due.winter(sixPourers(), 0, 1, NONE, 0));
         IceBridge most = Due.fjord("fjord 6 1;frost 9;pourer pa west plain pails 65;");
         is("65", 90, Due.winter(most, 0, 1, NONE, 0));
         is("66", 99, Due.winter(Due.fjord("fjord 6 1;frost 9;pourer pa west plain pails 60;pourer pb west plain pails 6;"),
@@ -1221,6 +1236,7 @@ public final class AnswerBoundsTest {
         yes("2", x.pour(0, 0, 0));
         yes("2", x.pour(0, 1, 0));
         yes("over", x.over(0, 0));
+        is("built on the ice", 4, x.built(0, 2, 0));
         is("2 as on water", 2, Due.winter(x, 0, 2, NONE, 0));
         is("3 is not borne", 0, Due.winter(x, 0, 60, 2, 0));
         is("one that is over is borne", 60, Due.winter(x, 0, 60, 0, 11));
@@ -1243,6 +1259,9 @@ public final class AnswerBoundsTest {
         is("4 by 4 each, the first melts", 0, Due.winter(Due.fjord(fewer), 0, 1, 0, 12));
         String rocks = "fjord 2 2;rock 0 1;rock 1 1;pourer pw west plain pails 9;" + load('f', "horse", 50, 1);
         is("rocks bear all", 60, Due.winter(Due.fjord(rocks), 0, 60, 0, 23));
+        is("and don't melt", 60, Due.winter(Due.fjord(rocks + "melt 9;"), 0, 60, 0, 23));
+        String among = "fjord 3 1;rock 1 0;frost 4;melt 9*(column=1);pourer pw west plain pails 2;" + load('f', "foot", 4, 1);
+        is("nor does one among cells", 1, Due.winter(Due.fjord(among), 0, 1, 0, 23));
         is("99", 99, Due.winter(Due.fjord(rocks), 0, 60, NONE, 23));
     }
 

@@ -396,6 +396,7 @@ public final class IceBoundsTest {
         whatLoadsNeed();
         rowsThatBear();
         wear();
+        wearOfTenCells();
         onceBetweenNoons();
         sumsSinceTheFjord();
         argumentsOfOver();
@@ -453,6 +454,27 @@ public final class IceBoundsTest {
                 is("worn", 2 * (frost - left), x.count(8));
             }
         }
+    }
+
+    /** Each CELL of its row, and none of another one. */
+    private static void wearOfTenCells() {
+        IceBridge x = Due.fjord("fjord 10 6;frost 3;pourer a west plain pails 99;load f horse heavy 1 worth 1;load g foot heavy 1 worth 1;");
+        for (int i = 0; i < 20; i++) {
+            pours(x, 1, 0, i % 10, 4 + i / 10);
+        }
+        yes("over row 4", x.over(0, 4));
+        is("worn 2 on ten", 20, x.count(8));
+        is("row 4", 1, x.thin(4));
+        is("row 5", 3, x.thin(5));
+        yes("over row 5", x.over(1, 5));
+        is("worn 1 on ten", 30, x.count(8));
+        for (int column = 0; column < 10; column++) {
+            is("row 4, column " + column, 1, x.cell(column, 4, 0));
+            is("row 5, column " + column, 2, x.cell(column, 5, 0));
+        }
+        yes("undone", x.undo());
+        yes("undone", x.undo());
+        is("as it was", 60, x.count(9));
     }
 
     /** Each LOAD once between two noons (HOUR 0 begins anew). */
@@ -641,6 +663,7 @@ public final class IceBoundsTest {
         marksFrom0To3();
         nothingIsOnIt();
         marksHoldAll();
+        marksHoldTheHour();
         nothingToUndoBehind();
         marksAreLaidAnew();
     }
@@ -709,6 +732,28 @@ public final class IceBoundsTest {
         is("stump", 1, x.fits(0, 0, 0, 12, 0));
         is("its other stump", 1, x.salted(0, 0, 13) >> 3);
         is("melt", 7 - 1, afterNoon(x));
+    }
+
+    /** The HOUR, too, and what has MELTED. */
+    private static void marksHoldTheHour() {
+        IceBridge x = Due.fjord("fjord 2 1;frost 7;melt 2;pourer a west plain pails 9;pourer b west plain pails 9;load f foot heavy 1 worth 1;");
+        pours(x, 2, 0, 0, 0);
+        pours(x, 1, 0, 1, 0);
+        yes("over", x.over(0, 0));
+        x.hours(14);
+        yes("lay", x.mark(3, false));
+        int[] counts = {2, 1, 2, 1, 14, 0, 21, 8, 2, 11, 0, 0, 0};
+        x.hours(33);
+        is("hour 23", 23, x.count(4));
+        yes("back", x.mark(3, true));
+        for (int what = 0; what < counts.length; what++) {
+            is("count " + what, counts[what], x.count(what));
+        }
+        is("the hours go on from there", 15, x.hours(1));
+        is("melted on", 12, x.count(7));
+        is("from what it was", 7, x.count(9));
+        is("pails left", 6, x.pourer(0, 2));
+        is("over", 1, x.load(0, 3));
     }
 
     private static int afterNoon(IceBridge x) {

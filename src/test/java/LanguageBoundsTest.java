@@ -312,6 +312,10 @@ public final class LanguageBoundsTest {
         faultAt(1, "@rock 0 0;fjord 4 2;");
         faultAt(1, "fjord 4 2;@fjord 4 2;");
         faultAt(1, "fjord 4 2;rock 0 0;@fjord 4 2;");
+        faultAt(1, "fjord 4 2;@;");
+        faultAt(1, "fjord 4 2;rock 0 0;@;rock 1 0;");
+        faultAt(1, "fjord 4 2;@7;");
+        faultAt(1, "fjord 4 2;@(rock 0 0);");
     }
 
     /** rock, salt, current: a CELL (column from the west, row; from 0). */
@@ -392,6 +396,12 @@ public final class LanguageBoundsTest {
         faultAt(1, HEAD + "pourer a @north plain pails 1;");
         faultAt(1, HEAD + "pourer a west @horse pails 1;");
         faultAt(1, HEAD + "pourer a west plain @1;");
+        faultAt(1, HEAD + "pourer a west @pails 1;");
+        faultAt(1, HEAD + "pourer a @pails 1;");
+        faultAt(1, HEAD + "pourer a @plain pails 1;");
+        faultAt(1, HEAD + "pourer @west plain pails 1;");
+        faultAt(1, HEAD + "pourer a west @west plain pails 1;");
+        faultAt(1, HEAD + "pourer a west plain @plain pails 1;");
     }
 
     /** 0 to 99 pails a night. */
@@ -430,6 +440,11 @@ public final class LanguageBoundsTest {
         faultAt(1, HEAD + "load a @smith heavy 1 worth 1;");
         faultAt(1, HEAD + "load a foot @1 worth 1;");
         faultAt(1, HEAD + "load a foot heavy 1 @1;");
+        faultAt(1, HEAD + "load a @heavy 1 worth 1;");
+        faultAt(1, HEAD + "load @foot heavy 1 worth 1;");
+        faultAt(1, HEAD + "load a foot @worth 1 heavy 1;");
+        faultAt(1, HEAD + "load a foot heavy @worth 1;");
+        faultAt(1, HEAD + "load a foot heavy 1 worth @;");
     }
 
     /** heavy 1 to 50; worth 0 to 99. */
@@ -682,10 +697,13 @@ public final class LanguageBoundsTest {
         knows("first", "hour night heavy worth wear");
         String two = "fjord 2 1;load a horse heavy 4 worth 3;load b foot heavy 4 worth 4;";
         is("heavy: 5 ahead of 4", 0, Due.fjord(two + "first heavy;").queue(0, 2));
-        is("heavy is what it needs", 0, Due.fjord(two + "first heavy=5;").queue(0, 2));
+        is("less heavy: 4 ahead of 5", 1, Due.fjord(two + "first 0-heavy;").queue(0, 2));
+        is("heavy is what it needs", 1, Due.fjord(two + "first (heavy=5)-2*(heavy=5);").queue(0, 2));
         is("worth: 4 ahead of 3", 1, Due.fjord(two + "first worth;").queue(0, 2));
+        is("less worth: 3 ahead of 4", 0, Due.fjord(two + "first 0-worth;").queue(0, 2));
         is("wear: 2 ahead of 1", 0, Due.fjord(two + "first wear;").queue(0, 2));
-        is("wear is 2", 0, Due.fjord(two + "first wear=2;").queue(0, 2));
+        is("less wear: 1 ahead of 2", 1, Due.fjord(two + "first 0-wear;").queue(0, 2));
+        is("wear is 1", 1, Due.fjord(two + "first wear=1;").queue(0, 2));
         IceBridge x = Due.fjord(two + "first worth*(1-(hour=1)*2-(night=1)*2);");
         is("by worth", 1, x.queue(0, 2));
         x.hours(1);
@@ -851,7 +869,10 @@ public final class LanguageBoundsTest {
         IceBridge y = Due.fjord(TEXT + "rock 0 0;rock 1 0;rock 2 0;rock 3 0;");
         Due.yes("over", y.over(0, 0));
         is("over", 1, y.load(0, 3));
+        is("can be undone", 1, y.count(10));
         is("again", 0, Due.read(y, TEXT));
+        is("can't be any more", 0, y.count(10));
+        Due.no("nothing to undo", y.undo());
         is("not over", 0, y.load(0, 3));
         is("no rock", 0, y.cell(0, 0, 1));
         is("a smaller one", 0, Due.read(y, "fjord 2 1;"));
