@@ -576,7 +576,6 @@ public final class IceBridge {
 
         void empty() {
             length = 0;
-            next = 0;
         }
 
         void rewind() {

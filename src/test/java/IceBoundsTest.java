@@ -800,7 +800,28 @@ public final class IceBoundsTest {
 
     // ---- promises 4 to 6, 11, 12, 31
 
+    /** An object is used for at most 512 calls: up to the last of them it answers as ever. */
+    private static void usedFor512Calls() {
+        IceBridge x = new IceBridge();
+        for (int call = 1; call <= 512; call++) {
+            is("call " + call, call, x.hours(1));
+        }
+        IceBridge y = new IceBridge();
+        String text = "fjord 9 1;";
+        for (int call = 2; call <= 512; call += 2) {
+            is("fed by call " + (call - 1), 10, y.feed(Due.pack(text, 0), Due.pack(text, 8), 0));
+            is("read by call " + call, 0, y.fjord());
+        }
+        IceBridge z = Due.fjord("fjord 2 1;frost 1;pourer a west plain pails 9;");
+        for (int call = 4; call <= 510; call += 2) {
+            yes("poured by call " + call, z.pour(0, 0, 0));
+            yes("undone by call " + (call + 1), z.undo());
+        }
+        is("water by call 512", 0, z.cell(0, 0, 0));
+    }
+
     private static void questions() {
+        usedFor512Calls();
         argumentsOfQuestions();
         thinIsTheLeast();
         untilFrom0To24();
